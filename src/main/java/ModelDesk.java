@@ -455,7 +455,7 @@ public final class ModelDesk {
                 solvedBy[v] = row;
                 unused &= ~(1 << row);
                 scaleRow(row, v);
-                clearColumn(row, v, equations);
+                clearColumn(row, v);
             }
         }
         return true;
@@ -486,9 +486,9 @@ public final class ModelDesk {
         }
     }
 
-    private void clearColumn(int row, int v, int equations) {
+    private void clearColumn(int row, int v) {
         for (int e = 0; e < COUNT; e++) {
-            if (has(equations, e) && e != row) {
+            if (e != row) {
                 int factor = PRIME - grid[e * WIDTH + v];
                 for (int i = 0; i < WIDTH; i++) {
                     int sum = grid[e * WIDTH + i] + factor * grid[row * WIDTH + i];

@@ -19,6 +19,7 @@ public final class PromisesTest {
         promise7PartOfNothing();
         promise8Good();
         promise9Block();
+        promise9LongRing();
         promise9OrderOfBlocks();
         promise9BlocksBesideOtherParts();
         promise10State();
@@ -176,6 +177,13 @@ public final class PromisesTest {
         Due.is("term of dropped", desk.term(2, 0, 1, false), false);
         desk.equation(2, 0);
         Due.is("coefficients are not back", desk.good(2, 0), false);
+        write(desk, 2, 0, 0, 1);
+        write(desk, 3, 0, 0, 1);
+        Due.is("two for one variable", desk.part(3, false), 1);
+        Due.is("drop one of two", desk.drop(2), true);
+        Due.is("good of dropped beside another", desk.good(2, 0), false);
+        Due.is("good of the other", desk.good(3, 0), true);
+        Due.is("the other is even now", desk.part(3, false), 0);
     }
 
     private static void promise5Term() {
@@ -310,6 +318,19 @@ public final class PromisesTest {
         }
     }
 
+    private static void promise9LongRing() {
+        ModelDesk ring = unknowns(8);
+        for (int e = 0; e < 8; e++) {
+            write(ring, e, 0, e, 1, (e + 1) % 8, 2);
+        }
+        blocks("a ring hangs together", ring, false, 0, 0, 0, 0, 0, 0, 0, 0);
+        blocks("a ring hangs together", ring, true, 0, 0, 0, 0, 0, 0, 0, 0);
+        Due.is("one block", ring.state(0), 1);
+        Due.is("of all eight", ring.state(1), 8);
+        ring.term(7, 0, 0, false);
+        blocks("an open ring is solved from its end", ring, false, 7, 6, 5, 4, 3, 2, 1, 0);
+    }
+
     private static void promise9OrderOfBlocks() {
         ModelDesk chain = unknowns(4);
         write(chain, 0, 0, 0, 1, 1, 1);
@@ -392,6 +413,14 @@ public final class PromisesTest {
             write(ring, e, 0, e, 1, (e + 1) % 8, 2);
         }
         Due.is("a ring", ring.tears(0), 1);
+        ModelDesk mixed = unknowns(6);
+        write(mixed, 0, 0, 4, 1, 5, 1);
+        write(mixed, 1, 0, 3, 1, 4, 1);
+        write(mixed, 2, 0, 2, 1, 3, 1);
+        write(mixed, 3, 0, 1, 1, 2, 1);
+        write(mixed, 4, 0, 0, 1, 1, 1);
+        write(mixed, 5, 0, 0, 1, 1, 2, 2, 1, 3, 1, 4, 1, 5, 1);
+        Due.is("found against the order of the equations", mixed.tears(0), 1);
         ModelDesk star = unknowns(4);
         write(star, 0, 0, 0, 1, 3, 1);
         write(star, 1, 0, 1, 1, 3, 1);
