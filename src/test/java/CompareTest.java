@@ -1,7 +1,11 @@
-/** Long runs of calls, the same each time, whose answers must be those of SlowDesk. */
+/**
+ * Runs of calls, the same each time, whose answers must be those of SlowDesk. A run stays within
+ * the 512 calls for which the document promises answers: two times all questions, some between.
+ */
 public final class CompareTest {
-    private static final int RUNS = 1500;
+    private static final int RUNS = 4000;
     private static final int CHANGES = 6;
+    private static final int QUESTIONS = 10;
     private static final int MOST_WRONG = 20;
 
     private static long seed = 20261115L;
@@ -64,9 +68,10 @@ public final class CompareTest {
         compareAll(run, desk, slow);
         for (int i = 0; i < CHANGES; i++) {
             change(run, desk, slow, size, below(10));
-            ask(run, desk, slow);
-            compareAll(run, desk, slow);
+            solve(run, desk, slow);
+            compareSome(run, desk, slow);
         }
+        compareAll(run, desk, slow);
     }
 
     private static void change(int run, ModelDesk desk, SlowDesk slow, int size, int choice) {
@@ -89,12 +94,34 @@ public final class CompareTest {
         }
     }
 
-    private static void ask(int run, ModelDesk desk, SlowDesk slow) {
+    private static void solve(int run, ModelDesk desk, SlowDesk slow) {
         int n = below(8) == 0 ? below(40) - 10 : 1;
         int got = desk.step(n);
         Due.is("run " + run + ": step(" + n + ")", got, slow.step(n));
         solved += got == ModelDesk.OK ? 1 : 0;
         singular += got == ModelDesk.SINGULAR ? 1 : 0;
+    }
+
+    private static void compareSome(int run, ModelDesk desk, SlowDesk slow) {
+        for (int i = 0; i < QUESTIONS; i++) {
+            compareOne(run, desk, slow, below(9), number(8), number(8));
+        }
+    }
+
+    private static void compareOne(int run, ModelDesk desk, SlowDesk slow, int choice, int i, int j) {
+        String where = "run " + run + ": some (" + i + ", " + j + "), question " + choice;
+        boolean variable = j % 2 == 0;
+        switch (choice) {
+            case 0 -> Due.is(where, desk.matching(), slow.matching());
+            case 1 -> Due.is(where, desk.part(i, variable), slow.part(i, variable));
+            case 2 -> Due.is(where, desk.good(i, j), slow.good(i, j));
+            case 3 -> Due.is(where, desk.block(i, variable), slow.block(i, variable));
+            case 4 -> Due.is(where, desk.state(i), slow.state(i));
+            case 5 -> Due.is(where, desk.tears(i), slow.tears(i));
+            case 6 -> Due.is(where, desk.value(i), slow.value(i));
+            case 7 -> Due.is(where, desk.before(i), slow.before(i));
+            default -> Due.is(where, desk.gain(i, j), slow.gain(i, j));
+        }
     }
 
     private static void compareAll(int run, ModelDesk desk, SlowDesk slow) {

@@ -2,15 +2,21 @@
 final class Due {
     private static int asked = 0;
     private static int wrong = 0;
+    private static String sentence = "";
 
     private Due() {
+    }
+
+    /** From now on a wrong answer is printed with the sentence of the document that it breaks. */
+    static void by(String words) {
+        sentence = "[" + words + "] ";
     }
 
     static void is(String what, int got, int want) {
         asked++;
         if (got != want) {
             wrong++;
-            System.out.println(what + " answered " + got + ", due is " + want);
+            System.out.println(sentence + what + " answered " + got + ", due is " + want);
         }
     }
 

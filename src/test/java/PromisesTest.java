@@ -1,7 +1,7 @@
 /** One method for each promise of the document: ordinary inputs, the edges it names, wrong inputs. */
 public final class PromisesTest {
     private static final int NONE = ModelDesk.NONE;
-    private static final int[] NO_NUMBERS = {-1, 8, 9, 100, 1 << 30, Integer.MIN_VALUE, Integer.MAX_VALUE};
+    private static final int[] NO_NUMBERS = Models.NO_NUMBERS;
 
     private PromisesTest() {
     }
@@ -40,35 +40,6 @@ public final class PromisesTest {
         Due.end();
     }
 
-    /** Makes an equation with a constant and pairs of variable and coefficient. */
-    private static void write(ModelDesk desk, int e, int c, int... terms) {
-        Due.is("equation(" + e + ")", desk.equation(e, c), true);
-        for (int i = 0; i < terms.length; i += 2) {
-            Due.is("term(" + e + ", " + terms[i] + ")", desk.term(e, terms[i], terms[i + 1], false), true);
-        }
-    }
-
-    /** A desk with the unknown variables 0..count-1. */
-    private static ModelDesk unknowns(int count) {
-        ModelDesk desk = new ModelDesk();
-        for (int v = 0; v < count; v++) {
-            Due.is("variable(" + v + ")", desk.variable(v, 1, 0), true);
-        }
-        return desk;
-    }
-
-    private static void parts(String what, ModelDesk desk, boolean variable, int... want) {
-        for (int i = 0; i < want.length; i++) {
-            Due.is(what + ": part(" + i + ", " + variable + ")", desk.part(i, variable), want[i]);
-        }
-    }
-
-    private static void blocks(String what, ModelDesk desk, boolean variable, int... want) {
-        for (int i = 0; i < want.length; i++) {
-            Due.is(what + ": block(" + i + ", " + variable + ")", desk.block(i, variable), want[i]);
-        }
-    }
-
     private static void promise1NewObject() {
         Due.is("OK", ModelDesk.OK, 0);
         Due.is("UNBALANCED", ModelDesk.UNBALANCED, 1);
@@ -90,7 +61,7 @@ public final class PromisesTest {
         }
         Due.is("new: matching", desk.matching(), 0);
         Due.is("new: step", desk.step(1), ModelDesk.OK);
-        ModelDesk other = unknowns(1);
+        ModelDesk other = Models.unknowns(1);
         Due.is("objects are apart", desk.state(3), 0);
         Due.is("objects are apart", other.state(3), 1);
     }
@@ -126,8 +97,8 @@ public final class PromisesTest {
     }
 
     private static void promise2CoefficientsStay() {
-        ModelDesk desk = unknowns(1);
-        write(desk, 0, -10, 0, 2);
+        ModelDesk desk = Models.unknowns(1);
+        Models.write(desk, 0, -10, 0, 2);
         desk.term(0, 0, 1, true);
         for (int kind = 0; kind < 3; kind++) {
             desk.variable(0, kind, 9);
@@ -138,14 +109,14 @@ public final class PromisesTest {
     }
 
     private static void promise3Equation() {
-        ModelDesk desk = unknowns(2);
+        ModelDesk desk = Models.unknowns(2);
         for (int e : NO_NUMBERS) {
             Due.is("equation(" + e + ")", desk.equation(e, 1), false);
         }
         Due.is("no equation yet", desk.state(2), 0);
         desk.variable(1, 3, 6);
-        write(desk, 0, -5, 0, 1);
-        write(desk, 7, -303, 1, 1);
+        Models.write(desk, 0, -5, 0, 1);
+        Models.write(desk, 7, -303, 1, 1);
         desk.term(7, 1, 1, true);
         Due.is("two equations", desk.state(2), 2);
         Due.is("step", desk.step(1), ModelDesk.OK);
@@ -161,11 +132,11 @@ public final class PromisesTest {
     }
 
     private static void promise4Drop() {
-        ModelDesk desk = unknowns(1);
+        ModelDesk desk = Models.unknowns(1);
         for (int e : NO_NUMBERS) {
             Due.is("drop(" + e + ")", desk.drop(e), false);
         }
-        write(desk, 2, 0, 0, 1);
+        Models.write(desk, 2, 0, 0, 1);
         Due.is("drop of another", desk.drop(1), false);
         Due.is("drop", desk.drop(2), true);
         Due.is("dropped twice", desk.drop(2), false);
@@ -177,8 +148,8 @@ public final class PromisesTest {
         Due.is("term of dropped", desk.term(2, 0, 1, false), false);
         desk.equation(2, 0);
         Due.is("coefficients are not back", desk.good(2, 0), false);
-        write(desk, 2, 0, 0, 1);
-        write(desk, 3, 0, 0, 1);
+        Models.write(desk, 2, 0, 0, 1);
+        Models.write(desk, 3, 0, 0, 1);
         Due.is("two for one variable", desk.part(3, false), 1);
         Due.is("drop one of two", desk.drop(2), true);
         Due.is("good of dropped beside another", desk.good(2, 0), false);
@@ -187,11 +158,11 @@ public final class PromisesTest {
     }
 
     private static void promise5Term() {
-        ModelDesk desk = unknowns(1);
+        ModelDesk desk = Models.unknowns(1);
         desk.variable(1, 2, 3);
         desk.variable(2, 3, 10);
-        write(desk, 0, 0, 0, 1, 1, -1);
-        write(desk, 1, 0, 2, -1);
+        Models.write(desk, 0, 0, 0, 1, 1, -1);
+        Models.write(desk, 1, 0, 2, -1);
         desk.term(1, 2, 2, true);
         Due.is("step", desk.step(1), ModelDesk.OK);
         Due.is("x = known", desk.value(0), 3);
@@ -209,8 +180,8 @@ public final class PromisesTest {
     }
 
     private static void promise5WrongTerm() {
-        ModelDesk desk = unknowns(8);
-        write(desk, 0, 0, 0, 1);
+        ModelDesk desk = Models.unknowns(8);
+        Models.write(desk, 0, 0, 0, 1);
         for (int wrong : NO_NUMBERS) {
             for (int i = 0; i < 2; i++) {
                 boolean old = i == 1;
@@ -226,10 +197,10 @@ public final class PromisesTest {
     }
 
     private static void promise6Matching() {
-        ModelDesk desk = unknowns(8);
+        ModelDesk desk = Models.unknowns(8);
         Due.is("no equation", desk.matching(), 0);
         for (int e = 0; e < 8; e++) {
-            write(desk, e, 0, 0, 1, 1, 1);
+            Models.write(desk, e, 0, 0, 1, 1, 1);
         }
         Due.is("eight equations of two variables", desk.matching(), 2);
         for (int e = 0; e < 8; e++) {
@@ -240,30 +211,30 @@ public final class PromisesTest {
         Due.is("one known", desk.matching(), 7);
         desk.variable(5, 3, 0);
         Due.is("a state is matched too", desk.matching(), 8);
-        ModelDesk path = unknowns(3);
-        write(path, 0, 0, 0, 1, 1, 1);
-        write(path, 1, 0, 0, 1);
-        write(path, 2, 0, 1, 1, 2, 1);
+        ModelDesk path = Models.unknowns(3);
+        Models.write(path, 0, 0, 0, 1, 1, 1);
+        Models.write(path, 1, 0, 0, 1);
+        Models.write(path, 2, 0, 1, 1, 2, 1);
         Due.is("a greedy choice would miss one", path.matching(), 3);
     }
 
     private static void promise7Part() {
-        ModelDesk desk = unknowns(6);
-        write(desk, 0, 1, 0, 1);
-        write(desk, 1, 2, 0, 1);
-        write(desk, 2, 0, 0, 1, 1, 1);
-        write(desk, 3, 0, 1, 2, 2, 1, 3, 1);
-        write(desk, 4, 0, 3, 1, 4, 1, 5, 1, 2, 1);
+        ModelDesk desk = Models.unknowns(6);
+        Models.write(desk, 0, 1, 0, 1);
+        Models.write(desk, 1, 2, 0, 1);
+        Models.write(desk, 2, 0, 0, 1, 1, 1);
+        Models.write(desk, 3, 0, 1, 2, 2, 1, 3, 1);
+        Models.write(desk, 4, 0, 3, 1, 4, 1, 5, 1, 2, 1);
         desk.variable(6, 2, 1);
-        parts("three parts", desk, false, 1, 1, 0, 2, 2, NONE, NONE, NONE);
-        parts("three parts", desk, true, 1, 0, 2, 2, 2, 2, NONE, NONE);
+        Models.parts("three parts", desk, false, 1, 1, 0, 2, 2, NONE, NONE, NONE);
+        Models.parts("three parts", desk, true, 1, 0, 2, 2, 2, 2, NONE, NONE);
         desk.drop(1);
-        parts("no excess", desk, false, 0, NONE, 0, 2, 2, NONE, NONE, NONE);
-        parts("no excess", desk, true, 0, 0, 2, 2, 2, 2, NONE, NONE);
+        Models.parts("no excess", desk, false, 0, NONE, 0, 2, 2, NONE, NONE, NONE);
+        Models.parts("no excess", desk, true, 0, 0, 2, 2, 2, 2, NONE, NONE);
     }
 
     private static void promise7PartOfNothing() {
-        ModelDesk desk = unknowns(1);
+        ModelDesk desk = Models.unknowns(1);
         desk.equation(0, 0);
         Due.is("an empty equation", desk.part(0, false), 1);
         Due.is("a variable in none", desk.part(0, true), 2);
@@ -282,20 +253,20 @@ public final class PromisesTest {
     }
 
     private static void promise8Good() {
-        ModelDesk desk = unknowns(3);
-        write(desk, 0, 0, 0, 1);
-        write(desk, 1, 0, 0, 1, 1, 1);
+        ModelDesk desk = Models.unknowns(3);
+        Models.write(desk, 0, 0, 0, 1);
+        Models.write(desk, 1, 0, 0, 1, 1, 1);
         Due.is("good(0, 0)", desk.good(0, 0), true);
         Due.is("in, but in no greatest matching", desk.good(1, 0), false);
         Due.is("good(1, 1)", desk.good(1, 1), true);
         Due.is("not in", desk.good(0, 1), false);
-        write(desk, 2, 0, 1, 1, 2, 1);
+        Models.write(desk, 2, 0, 1, 1, 2, 1);
         desk.term(1, 2, 1, false);
         Due.is("a ring is good all round", desk.good(1, 1), true);
         Due.is("a ring is good all round", desk.good(1, 2), true);
         Due.is("a ring is good all round", desk.good(2, 1), true);
         Due.is("a ring is good all round", desk.good(2, 2), true);
-        write(desk, 3, 0, 0, 1);
+        Models.write(desk, 3, 0, 0, 1);
         Due.is("excess equations have good pairs", desk.good(0, 0), true);
         Due.is("excess equations have good pairs", desk.good(3, 0), true);
         for (int wrong : NO_NUMBERS) {
@@ -305,13 +276,13 @@ public final class PromisesTest {
     }
 
     private static void promise9Block() {
-        ModelDesk desk = unknowns(4);
-        write(desk, 0, 0, 0, 1, 1, 1);
-        write(desk, 1, 0, 2, 1, 3, 1);
-        write(desk, 2, 0, 2, 1, 3, 2);
-        write(desk, 3, 0, 0, 1, 1, 2, 2, 1);
-        blocks("two pairs", desk, false, 1, 0, 0, 1, NONE, NONE, NONE, NONE);
-        blocks("two pairs", desk, true, 1, 1, 0, 0, NONE, NONE, NONE, NONE);
+        ModelDesk desk = Models.unknowns(4);
+        Models.write(desk, 0, 0, 0, 1, 1, 1);
+        Models.write(desk, 1, 0, 2, 1, 3, 1);
+        Models.write(desk, 2, 0, 2, 1, 3, 2);
+        Models.write(desk, 3, 0, 0, 1, 1, 2, 2, 1);
+        Models.blocks("two pairs", desk, false, 1, 0, 0, 1, NONE, NONE, NONE, NONE);
+        Models.blocks("two pairs", desk, true, 1, 1, 0, 0, NONE, NONE, NONE, NONE);
         for (int number : NO_NUMBERS) {
             Due.is("block(" + number + ", false)", desk.block(number, false), NONE);
             Due.is("block(" + number + ", true)", desk.block(number, true), NONE);
@@ -319,57 +290,57 @@ public final class PromisesTest {
     }
 
     private static void promise9LongRing() {
-        ModelDesk ring = unknowns(8);
+        ModelDesk ring = Models.unknowns(8);
         for (int e = 0; e < 8; e++) {
-            write(ring, e, 0, e, 1, (e + 1) % 8, 2);
+            Models.write(ring, e, 0, e, 1, (e + 1) % 8, 2);
         }
-        blocks("a ring hangs together", ring, false, 0, 0, 0, 0, 0, 0, 0, 0);
-        blocks("a ring hangs together", ring, true, 0, 0, 0, 0, 0, 0, 0, 0);
+        Models.blocks("a ring hangs together", ring, false, 0, 0, 0, 0, 0, 0, 0, 0);
+        Models.blocks("a ring hangs together", ring, true, 0, 0, 0, 0, 0, 0, 0, 0);
         Due.is("one block", ring.state(0), 1);
         Due.is("of all eight", ring.state(1), 8);
         ring.term(7, 0, 0, false);
-        blocks("an open ring is solved from its end", ring, false, 7, 6, 5, 4, 3, 2, 1, 0);
+        Models.blocks("an open ring is solved from its end", ring, false, 7, 6, 5, 4, 3, 2, 1, 0);
     }
 
     private static void promise9OrderOfBlocks() {
-        ModelDesk chain = unknowns(4);
-        write(chain, 0, 0, 0, 1, 1, 1);
-        write(chain, 1, 0, 1, 1, 2, 1);
-        write(chain, 2, 0, 2, 1, 3, 1);
-        write(chain, 3, 0, 3, 1);
-        blocks("a chain from its end", chain, false, 3, 2, 1, 0);
-        ModelDesk freed = unknowns(4);
-        write(freed, 0, 0, 0, 1, 2, 1);
-        write(freed, 1, 0, 1, 1);
-        write(freed, 2, 0, 2, 1);
-        write(freed, 3, 0, 3, 1);
-        blocks("a freed block with a lesser equation comes next", freed, false, 2, 0, 1, 3);
-        ModelDesk crossed = unknowns(3);
-        write(crossed, 0, 0, 2, 1);
-        write(crossed, 1, 0, 1, 1);
-        write(crossed, 2, 0, 0, 1);
-        blocks("equations count, not variables", crossed, false, 0, 1, 2);
-        blocks("equations count, not variables", crossed, true, 2, 1, 0);
+        ModelDesk chain = Models.unknowns(4);
+        Models.write(chain, 0, 0, 0, 1, 1, 1);
+        Models.write(chain, 1, 0, 1, 1, 2, 1);
+        Models.write(chain, 2, 0, 2, 1, 3, 1);
+        Models.write(chain, 3, 0, 3, 1);
+        Models.blocks("a chain from its end", chain, false, 3, 2, 1, 0);
+        ModelDesk freed = Models.unknowns(4);
+        Models.write(freed, 0, 0, 0, 1, 2, 1);
+        Models.write(freed, 1, 0, 1, 1);
+        Models.write(freed, 2, 0, 2, 1);
+        Models.write(freed, 3, 0, 3, 1);
+        Models.blocks("a freed block with a lesser equation comes next", freed, false, 2, 0, 1, 3);
+        ModelDesk crossed = Models.unknowns(3);
+        Models.write(crossed, 0, 0, 2, 1);
+        Models.write(crossed, 1, 0, 1, 1);
+        Models.write(crossed, 2, 0, 0, 1);
+        Models.blocks("equations count, not variables", crossed, false, 0, 1, 2);
+        Models.blocks("equations count, not variables", crossed, true, 2, 1, 0);
     }
 
     private static void promise9BlocksBesideOtherParts() {
-        ModelDesk desk = unknowns(5);
-        write(desk, 0, 0, 0, 1);
-        write(desk, 1, 0, 0, 1);
-        write(desk, 2, 0, 2, 1, 1, 1, 0, 1);
-        write(desk, 3, 0, 1, 1, 0, 1);
-        write(desk, 4, 0, 3, 1, 4, 1, 2, 1);
-        blocks("only even ones", desk, false, NONE, NONE, 1, 0, NONE);
-        blocks("only even ones", desk, true, NONE, 0, 1, NONE, NONE);
+        ModelDesk desk = Models.unknowns(5);
+        Models.write(desk, 0, 0, 0, 1);
+        Models.write(desk, 1, 0, 0, 1);
+        Models.write(desk, 2, 0, 2, 1, 1, 1, 0, 1);
+        Models.write(desk, 3, 0, 1, 1, 0, 1);
+        Models.write(desk, 4, 0, 3, 1, 4, 1, 2, 1);
+        Models.blocks("only even ones", desk, false, NONE, NONE, 1, 0, NONE);
+        Models.blocks("only even ones", desk, true, NONE, 0, 1, NONE, NONE);
         Due.is("two blocks", desk.state(0), 2);
         Due.is("no singular block if unbalanced", desk.state(4), NONE);
     }
 
     private static void promise10State() {
-        ModelDesk desk = unknowns(4);
-        write(desk, 0, 0, 0, 1);
-        write(desk, 1, 0, 1, 1, 2, 1);
-        write(desk, 2, 0, 1, 1, 2, 2, 0, 1);
+        ModelDesk desk = Models.unknowns(4);
+        Models.write(desk, 0, 0, 0, 1);
+        Models.write(desk, 1, 0, 1, 1, 2, 1);
+        Models.write(desk, 2, 0, 1, 1, 2, 2, 0, 1);
         desk.variable(4, 3, 0);
         desk.variable(5, 2, 0);
         desk.equation(7, 1);
@@ -384,13 +355,13 @@ public final class PromisesTest {
     }
 
     private static void promise10FirstSingular() {
-        ModelDesk desk = unknowns(6);
-        write(desk, 0, 0, 0, 1, 1, 1);
-        write(desk, 1, 0, 0, 2, 1, 2);
-        write(desk, 2, 0, 2, 1, 3, 1);
-        write(desk, 3, 1, 2, 50, 3, 50);
-        write(desk, 4, 0, 4, 1, 0, 1);
-        write(desk, 5, 0, 5, 1);
+        ModelDesk desk = Models.unknowns(6);
+        Models.write(desk, 0, 0, 0, 1, 1, 1);
+        Models.write(desk, 1, 0, 0, 2, 1, 2);
+        Models.write(desk, 2, 0, 2, 1, 3, 1);
+        Models.write(desk, 3, 1, 2, 50, 3, 50);
+        Models.write(desk, 4, 0, 4, 1, 0, 1);
+        Models.write(desk, 5, 0, 5, 1);
         Due.is("first of two singular blocks", desk.state(4), 0);
         desk.term(0, 2, 1, false);
         Due.is("it needs the other one", desk.block(0, false), 1);
@@ -408,43 +379,43 @@ public final class PromisesTest {
     }
 
     private static void promise11Tears() {
-        ModelDesk ring = unknowns(8);
+        ModelDesk ring = Models.unknowns(8);
         for (int e = 0; e < 8; e++) {
-            write(ring, e, 0, e, 1, (e + 1) % 8, 2);
+            Models.write(ring, e, 0, e, 1, (e + 1) % 8, 2);
         }
         Due.is("a ring", ring.tears(0), 1);
-        ModelDesk mixed = unknowns(6);
-        write(mixed, 0, 0, 4, 1, 5, 1);
-        write(mixed, 1, 0, 3, 1, 4, 1);
-        write(mixed, 2, 0, 2, 1, 3, 1);
-        write(mixed, 3, 0, 1, 1, 2, 1);
-        write(mixed, 4, 0, 0, 1, 1, 1);
-        write(mixed, 5, 0, 0, 1, 1, 2, 2, 1, 3, 1, 4, 1, 5, 1);
+        ModelDesk mixed = Models.unknowns(6);
+        Models.write(mixed, 0, 0, 4, 1, 5, 1);
+        Models.write(mixed, 1, 0, 3, 1, 4, 1);
+        Models.write(mixed, 2, 0, 2, 1, 3, 1);
+        Models.write(mixed, 3, 0, 1, 1, 2, 1);
+        Models.write(mixed, 4, 0, 0, 1, 1, 1);
+        Models.write(mixed, 5, 0, 0, 1, 1, 2, 2, 1, 3, 1, 4, 1, 5, 1);
         Due.is("found against the order of the equations", mixed.tears(0), 1);
-        ModelDesk star = unknowns(4);
-        write(star, 0, 0, 0, 1, 3, 1);
-        write(star, 1, 0, 1, 1, 3, 1);
-        write(star, 2, 0, 2, 1, 3, 1);
-        write(star, 3, 0, 0, 1, 1, 1, 2, 1);
+        ModelDesk star = Models.unknowns(4);
+        Models.write(star, 0, 0, 0, 1, 3, 1);
+        Models.write(star, 1, 0, 1, 1, 3, 1);
+        Models.write(star, 2, 0, 2, 1, 3, 1);
+        Models.write(star, 3, 0, 0, 1, 1, 1, 2, 1);
         Due.is("a star, torn at its least variable", star.tears(0), 1);
-        ModelDesk single = unknowns(1);
-        write(single, 0, 0, 0, 1);
+        ModelDesk single = Models.unknowns(1);
+        Models.write(single, 0, 0, 0, 1);
         Due.is("one variable is found at once", single.tears(0), 0);
         int[] noBlocks = {-1, 1, 2, 8, Integer.MIN_VALUE, Integer.MAX_VALUE};
         for (int b : noBlocks) {
             Due.is("tears(" + b + ")", single.tears(b), NONE);
         }
-        ModelDesk few = unknowns(4);
-        write(few, 0, 0, 0, 1, 2, 1, 3, 1);
-        write(few, 1, 0, 0, 1, 1, 1, 2, 1, 3, 1);
-        write(few, 2, 0, 1, 1, 2, 1, 3, 1);
-        write(few, 3, 0, 0, 1, 1, 1, 2, 1, 3, 2);
+        ModelDesk few = Models.unknowns(4);
+        Models.write(few, 0, 0, 0, 1, 2, 1, 3, 1);
+        Models.write(few, 1, 0, 0, 1, 1, 1, 2, 1, 3, 1);
+        Models.write(few, 2, 0, 1, 1, 2, 1, 3, 1);
+        Models.write(few, 3, 0, 0, 1, 1, 1, 2, 1, 3, 2);
         Due.is("0 and 1 are not enough, 0 and 2 are the next", few.tears(0), 5);
-        ModelDesk fewest = unknowns(4);
-        write(fewest, 0, 0, 0, 1, 3, 1);
-        write(fewest, 1, 0, 0, 1, 1, 1, 3, 1);
-        write(fewest, 2, 0, 1, 1, 2, 1, 3, 1);
-        write(fewest, 3, 0, 0, 1, 1, 1, 2, 1, 3, 1);
+        ModelDesk fewest = Models.unknowns(4);
+        Models.write(fewest, 0, 0, 0, 1, 3, 1);
+        Models.write(fewest, 1, 0, 0, 1, 1, 1, 3, 1);
+        Models.write(fewest, 2, 0, 1, 1, 2, 1, 3, 1);
+        Models.write(fewest, 3, 0, 0, 1, 1, 1, 2, 1, 3, 1);
         Due.is("one tear", fewest.tears(0), 1);
         fewest.term(0, 0, 0, false);
         fewest.term(0, 2, 1, false);
@@ -453,7 +424,7 @@ public final class PromisesTest {
 
     private static void promise11TearsOfFullBlock() {
         for (int n = 1; n <= 8; n++) {
-            ModelDesk desk = unknowns(n);
+            ModelDesk desk = Models.unknowns(n);
             for (int e = 0; e < n; e++) {
                 desk.equation(e, 0);
                 for (int v = 0; v < n; v++) {
@@ -465,24 +436,24 @@ public final class PromisesTest {
     }
 
     private static void promise11TearsBesideOtherParts() {
-        ModelDesk desk = unknowns(7);
-        write(desk, 0, 0, 0, 1);
-        write(desk, 1, 0, 0, 1);
-        write(desk, 2, 0, 1, 1, 0, 1);
-        write(desk, 3, 0, 2, 1, 3, 1, 1, 1, 0, 1);
-        write(desk, 4, 0, 2, 1, 3, 2);
-        write(desk, 5, 0, 4, 1, 5, 1, 3, 1);
+        ModelDesk desk = Models.unknowns(7);
+        Models.write(desk, 0, 0, 0, 1);
+        Models.write(desk, 1, 0, 0, 1);
+        Models.write(desk, 2, 0, 1, 1, 0, 1);
+        Models.write(desk, 3, 0, 2, 1, 3, 1, 1, 1, 0, 1);
+        Models.write(desk, 4, 0, 2, 1, 3, 2);
+        Models.write(desk, 5, 0, 4, 1, 5, 1, 3, 1);
         Due.is("a block that is a single one", desk.tears(0), 0);
         Due.is("variables of no block and of needed ones are known", desk.tears(1), 4);
         Due.is("excess and loose ones are no blocks", desk.tears(2), NONE);
     }
 
     private static void promise12Step() {
-        ModelDesk desk = unknowns(1);
+        ModelDesk desk = Models.unknowns(1);
         desk.variable(1, 3, 1);
         desk.variable(2, 2, 7);
-        write(desk, 0, 3, 0, 1, 1, 1, 2, 2);
-        write(desk, 1, 0, 1, -1);
+        Models.write(desk, 0, 3, 0, 1, 1, 1, 2, 2);
+        Models.write(desk, 1, 0, 1, -1);
         desk.term(1, 1, 2, true);
         Due.is("step(1)", desk.step(1), ModelDesk.OK);
         Due.is("doubled", desk.value(1), 2);
@@ -499,7 +470,7 @@ public final class PromisesTest {
     private static void promise12NothingChangesOnFailure() {
         ModelDesk desk = new ModelDesk();
         desk.variable(0, 3, 5);
-        write(desk, 0, 0, 0, 1);
+        Models.write(desk, 0, 0, 0, 1);
         desk.term(0, 0, -3, true);
         Due.is("step", desk.step(1), ModelDesk.OK);
         Due.is("tripled", desk.value(0), 15);
@@ -528,8 +499,8 @@ public final class PromisesTest {
         ModelDesk desk = new ModelDesk();
         desk.variable(0, 3, 1);
         desk.variable(1, 3, 0);
-        write(desk, 0, 0, 0, -1);
-        write(desk, 1, 0, 1, -1);
+        Models.write(desk, 0, 0, 0, -1);
+        Models.write(desk, 1, 0, 1, -1);
         desk.term(0, 0, 1, true);
         desk.term(0, 1, 1, true);
         desk.term(1, 0, 1, true);
@@ -542,12 +513,12 @@ public final class PromisesTest {
     }
 
     private static void promise13Value() {
-        ModelDesk desk = unknowns(2);
+        ModelDesk desk = Models.unknowns(2);
         desk.variable(2, 3, 4);
         desk.variable(3, 2, -2);
-        write(desk, 0, -1, 0, 1);
-        write(desk, 1, -2, 1, 1);
-        write(desk, 2, -3, 2, 1);
+        Models.write(desk, 0, -1, 0, 1);
+        Models.write(desk, 1, -2, 1, 1);
+        Models.write(desk, 2, -3, 2, 1);
         Due.is("unknown before any step", desk.value(0), NONE);
         Due.is("state before any step", desk.value(2), NONE);
         Due.is("known", desk.value(3), 99);
@@ -564,10 +535,10 @@ public final class PromisesTest {
     }
 
     private static void promise13ValueIsKeptOrLost() {
-        ModelDesk desk = unknowns(3);
-        write(desk, 0, -1, 0, 1);
-        write(desk, 1, -2, 1, 1);
-        write(desk, 2, -3, 2, 1);
+        ModelDesk desk = Models.unknowns(3);
+        Models.write(desk, 0, -1, 0, 1);
+        Models.write(desk, 1, -2, 1, 1);
+        Models.write(desk, 2, -3, 2, 1);
         desk.step(1);
         desk.variable(0, 1, 0);
         Due.is("variable() was called, though for the same kind", desk.value(0), NONE);
@@ -586,7 +557,7 @@ public final class PromisesTest {
         Due.is("not there", desk.value(2), NONE);
         desk.variable(2, 3, 50);
         Due.is("a new state", desk.value(2), NONE);
-        write(desk, 1, -7, 1, 1);
+        Models.write(desk, 1, -7, 1, 1);
         Due.is("step", desk.step(1), ModelDesk.OK);
         Due.is("found again", desk.value(0), 1);
         Due.is("found anew", desk.value(1), 7);
@@ -594,7 +565,7 @@ public final class PromisesTest {
     }
 
     private static void promise14Before() {
-        ModelDesk desk = unknowns(1);
+        ModelDesk desk = Models.unknowns(1);
         desk.variable(1, 2, 5);
         desk.variable(2, 3, 205);
         Due.is("unknown", desk.before(0), NONE);
@@ -604,8 +575,8 @@ public final class PromisesTest {
         for (int v : NO_NUMBERS) {
             Due.is("before(" + v + ")", desk.before(v), NONE);
         }
-        write(desk, 0, 0, 0, 1, 2, 1);
-        write(desk, 1, -1, 2, 1);
+        Models.write(desk, 0, 0, 0, 1, 2, 1);
+        Models.write(desk, 1, -1, 2, 1);
         desk.term(1, 2, -1, true);
         desk.step(2);
         Due.is("after two steps", desk.before(2), 5);
@@ -618,10 +589,10 @@ public final class PromisesTest {
     }
 
     private static void promise15Gain() {
-        ModelDesk desk = unknowns(3);
-        write(desk, 4, 10, 0, 1);
-        write(desk, 5, 20, 0, -1, 1, 2);
-        write(desk, 6, 30, 2, -1);
+        ModelDesk desk = Models.unknowns(3);
+        Models.write(desk, 4, 10, 0, 1);
+        Models.write(desk, 5, 20, 0, -1, 1, 2);
+        Models.write(desk, 6, 30, 2, -1);
         Due.is("x = -c", desk.gain(0, 4), 100);
         Due.is("y = x/2 and so on", desk.gain(1, 4), 50);
         Due.is("y = -c/2", desk.gain(1, 5), 50);
@@ -631,11 +602,11 @@ public final class PromisesTest {
         desk.step(1);
         int y = desk.value(1);
         int gain = desk.gain(1, 5);
-        write(desk, 5, 21, 0, -1, 1, 2);
+        Models.write(desk, 5, 21, 0, -1, 1, 2);
         desk.step(1);
         Due.is("gain is the difference", Math.floorMod(desk.value(1) - y, 101), gain);
         desk.variable(3, 3, 9);
-        write(desk, 0, 0, 3, 2, 2, 1);
+        Models.write(desk, 0, 0, 3, 2, 2, 1);
         desk.term(0, 3, 1, true);
         Due.is("gain of a state", desk.gain(3, 0), 50);
         Due.is("gain of a state through another", desk.gain(3, 6), 50);
@@ -643,10 +614,10 @@ public final class PromisesTest {
     }
 
     private static void promise15GainNone() {
-        ModelDesk desk = unknowns(2);
+        ModelDesk desk = Models.unknowns(2);
         desk.variable(2, 2, 1);
-        write(desk, 0, 0, 0, 1, 1, 1);
-        write(desk, 1, 0, 0, 1, 1, 2, 2, 1);
+        Models.write(desk, 0, 0, 0, 1, 1, 1);
+        Models.write(desk, 1, 0, 0, 1, 1, 2, 2, 1);
         Due.is("gain", desk.gain(0, 0), 99);
         Due.is("known", desk.gain(2, 0), NONE);
         Due.is("variable not there", desk.gain(3, 0), NONE);
@@ -669,9 +640,9 @@ public final class PromisesTest {
 
     private static void promise16Order() {
         int[] outside = {0, -1, 1001, Integer.MIN_VALUE, Integer.MAX_VALUE};
-        ModelDesk desk = unknowns(3);
-        write(desk, 0, 0, 0, 1, 1, 1);
-        write(desk, 1, 0, 0, 1, 1, 1);
+        ModelDesk desk = Models.unknowns(3);
+        Models.write(desk, 0, 0, 0, 1, 1, 1);
+        Models.write(desk, 1, 0, 0, 1, 1, 1);
         for (int n : outside) {
             Due.is("unbalanced: step(" + n + ")", desk.step(n), NONE);
         }
@@ -697,8 +668,8 @@ public final class PromisesTest {
         desk.variable(0, 1, 0);
         desk.variable(1, 3, 10);
         desk.variable(2, 2, 5);
-        write(desk, 0, -1, 0, 1, 3, 7);
-        write(desk, 1, -2, 1, 1);
+        Models.write(desk, 0, -1, 0, 1, 3, 7);
+        Models.write(desk, 1, -2, 1, 1);
         for (int v = 0; v < 8; v++) {
             desk.term(0, v, 1, true);
         }
